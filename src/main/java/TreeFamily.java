@@ -292,7 +292,10 @@ public final class TreeFamily {
             return range.end(tree) - range.start(tree);
         }
 
-        /** The place of the last or the first entry in range; -1, which no entry has, if there is none. */
+        /**
+         * The place of the last or the first entry in range; -1, which no entry has, if there is
+         * none.
+         */
         int endOfRange(boolean last) {
             int start = range.start(tree);
             int end = range.end(tree);
@@ -374,7 +377,10 @@ public final class TreeFamily {
             return countGone(before);
         }
 
-        /** From the last entry on, as intersect: each key asks the other map, or this one, for itself alone. */
+        /**
+         * From the last entry on, as intersect: each key asks the other map, or this one, for
+         * itself alone.
+         */
         int subtract(OneMap other) {
             int before = entryCount();
             for (int i = before - 1; i >= 0; i--) {
@@ -472,7 +478,10 @@ public final class TreeFamily {
             return isBack ? place : place - 1;
         }
 
-        /** The places behind the dropped entry move down by one: on the way back none of them is to come. */
+        /**
+         * The places behind the dropped entry move down by one: on the way back none of them is to
+         * come.
+         */
         void forgetLatest() {
             if (!isBack) {
                 place--;
@@ -515,7 +524,10 @@ public final class TreeFamily {
             }
         }
 
-        /** The node of a key alike, or NONE. The path leads to it, or to the node below which it would hang. */
+        /**
+         * The node of a key alike, or NONE. The path leads to it, or to the node below which it
+         * would hang.
+         */
         int trace(int key) {
             depth = 0;
             int node = root;
@@ -632,7 +644,10 @@ public final class TreeFamily {
             return true;
         }
 
-        /** The next entry comes to the node, and the path goes on to the node that it leaves: that has no left one. */
+        /**
+         * The next entry comes to the node, and the path goes on to the node that it leaves: that
+         * has no left one.
+         */
         private void takeFollower(int node) {
             int follower = right[node];
             while (follower != NONE && depth < ROOM) {
@@ -733,9 +748,15 @@ public final class TreeFamily {
         }
     }
 
-    /** How trees are kept in balance. What a kind wants, it wants of each node and the nodes below it. */
+    /**
+     * How trees are kept in balance. What a kind wants, it wants of each node and the nodes below
+     * it.
+     */
     private abstract static class Kind {
-        /** The top of the tree below a node, when the kind has settled it; all that is deeper suits already. */
+        /**
+         * The top of the tree below a node, when the kind has settled it; all that is deeper suits
+         * already.
+         */
         abstract int settle(Tree tree, int node);
 
         abstract boolean suits(Tree tree, int node);
@@ -745,7 +766,10 @@ public final class TreeFamily {
     private abstract static class ByTwoSides extends Kind {
         abstract boolean isTooMuch(Tree tree, int side, int other);
 
-        /** Whether the inner part would be too much on the other side, so that it has to be parted first. */
+        /**
+         * Whether the inner part would be too much on the other side, so that it has to be parted
+         * first.
+         */
         abstract boolean hasToPart(Tree tree, int inner, int outer);
 
         int settle(Tree tree, int node) {
@@ -846,7 +870,10 @@ public final class TreeFamily {
         }
     }
 
-    /** A tree of n entries is not higher than one that grows by half with each level; one that is gets rebuilt. */
+    /**
+     * A tree of n entries is not higher than one that grows by half with each level; one that is
+     * gets rebuilt.
+     */
     private static final class ByRebuilding extends Kind {
         private static final int LEVELS = 30;
 

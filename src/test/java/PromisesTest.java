@@ -98,7 +98,7 @@ public final class PromisesTest {
                 Check.same("make: no range", x.size(0), x.within(0, 0));
                 String due = order == 0 ? "[1, 2, 3, 8]" : order == 1 ? "[8, 3, 2, 1]" : "[1, 8]";
                 Check.same("make: order " + order, due, keys(x, 0));
-                x.range(0, 1, 8, 0);
+                x.range(0, order % 2 == 0 ? 1 : 2, 8, 3);
                 x.iterate(0, true);
             }
         }
@@ -167,10 +167,29 @@ public final class PromisesTest {
                 Check.yes("remove: the rest", x.remove(0, key));
             }
             Check.no("remove: empty", x.remove(0, 4));
+            removeEachPlace(kind);
             for (int m : NO_MAPS) {
                 Check.illegal("remove: map", () -> x.remove(m, 1));
             }
         }
+    }
+
+    /** Of 1 .. 15 one after the other is removed: the others keep their values, wherever they stand. */
+    private static void removeEachPlace(int kind) {
+        for (int gone = 1; gone <= 15; gone++) {
+            TreeFamily x = withKeys(kind, 0, 8, 4, 12, 2, 6, 10, 14, 1, 3, 5, 7, 9, 11, 13, 15);
+            Check.yes("remove: one of 15", x.remove(0, gone));
+            Check.outOfBounds("remove: it is gone", keyGetter(x, gone));
+            for (int key = 1; key <= 15; key++) {
+                Check.same("remove: values stay", key == gone ? key : x.get(0, key) / 10, key);
+            }
+            Check.same("remove: sum", 1200 - 10 * gone, x.sum(0, 16));
+            Check.yes("remove: audit", x.audit(0));
+        }
+    }
+
+    private static Check.Act keyGetter(TreeFamily x, int key) {
+        return () -> x.get(0, key);
     }
 
     private static void promise5Get() {
@@ -632,7 +651,7 @@ public final class PromisesTest {
         for (int kind = 0; kind < 4; kind++) {
             TreeFamily x = withKeys(kind, 2, -9, -5, 1, 6, 8, 15);
             x.put(1, 77, 7);
-            x.range(1, 1, 100, 0);
+            x.range(1, kind % 2 + 1, 100, 0);
             x.iterate(1, false);
             x.range(0, 2, 0, 8);
             int from = x.changes(0);

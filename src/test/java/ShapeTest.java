@@ -34,6 +34,9 @@ public final class ShapeTest {
             }
         }
         new ShapeTest().chainIsSeen();
+        for (int way = 0; way < 4; way++) {
+            new ShapeTest().highestOfPriorities(way);
+        }
         Check.end();
     }
 
@@ -150,6 +153,55 @@ public final class ShapeTest {
             hangInAChain();
             Check.no("a chain is not of kind " + kind, family.audit(0));
         }
+    }
+
+    /** Priorities do not bound the height: keys can be chosen so that 60 nodes are a chain, and all must hold there. */
+    private void highestOfPriorities(int way) throws ReflectiveOperationException {
+        int[] chain = keysOfRisingPriority();
+        family.make(0, 2, way % 2);
+        for (int i = 0; i < 60; i++) {
+            family.put(0, chain[way < 2 ? i : 59 - i], i);
+        }
+        Check.same("chain: height", 60, height(root()));
+        look("chain", 2);
+        Check.same("chain: rank", way % 2 == 0 ? 60 : 0, family.rank(0, Integer.MAX_VALUE));
+        for (int i = 0; i < 60; i++) {
+            Check.same("chain: get", way < 2 ? i : 59 - i, family.get(0, chain[i]));
+            Check.same("chain: select", chain[way % 2 == 0 ? i : 59 - i], family.select(0, i));
+            Check.no("chain: none", family.remove(0, chain[i] + 1));
+        }
+        family.remove(0, chain[30]);
+        family.put(0, chain[59] + 1, 7);
+        look("chain with another end", 2);
+        for (int i = 0; i < 60; i++) {
+            family.poll(0, i % 2 == 0);
+            look("chain, polled", 2);
+        }
+    }
+
+    /** The longest row of rising keys whose priorities rise too, with room for the key behind each. */
+    private static int[] keysOfRisingPriority() {
+        int many = 6000;
+        int[] length = new int[many];
+        int[] before = new int[many];
+        int best = 0;
+        for (int i = 0; i < many; i++) {
+            length[i] = 1;
+            before[i] = -1;
+            for (int j = i - 1; j >= 0; j--) {
+                if (priority(2 * j) < priority(2 * i) && length[j] + 1 > length[i]) {
+                    length[i] = length[j] + 1;
+                    before[i] = j;
+                }
+            }
+            best = length[i] > length[best] ? i : best;
+        }
+        int[] keys = new int[60];
+        for (int i = 59; i >= 0; i--) {
+            keys[i] = 2 * best;
+            best = before[best];
+        }
+        return keys;
     }
 
     private void hangInAChain() throws ReflectiveOperationException {
