@@ -10,8 +10,23 @@ final class Check {
 
     private static int wrong = 0;
     private static int done = 0;
+    private static String about = "";
 
     private Check() {}
+
+    /** The tests of a sentence of the document: what is wrong in them is told with its words. */
+    static void sentence(String words, Act tests) {
+        about = words + " | ";
+        int before = done;
+        String end = answer(tests);
+        if (!end.equals("nothing thrown")) {
+            fail("the test came to no end: " + end);
+        }
+        if (done == before) {
+            fail("nothing was tested");
+        }
+        about = "";
+    }
 
     static void same(String what, long due, long got) {
         done++;
@@ -69,7 +84,7 @@ final class Check {
     static void fail(String text) {
         wrong++;
         if (wrong <= 50) {
-            System.out.println(text);
+            System.out.println(about + text);
         }
     }
 

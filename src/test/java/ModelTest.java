@@ -91,7 +91,8 @@ public final class ModelTest {
         int four = upTo(4);
         int three = upTo(3);
         int second = map();
-        String call = "(" + m + ", " + key + ", " + other + ", " + flag + ", " + four + ", " + three + ", " + second + ")";
+        String call = "(" + m + ", " + key + ", " + other + ", " + flag + ", " + four + ", " + three + ", "
+                + second + ")";
         switch (random.nextInt(24)) {
             case 0 -> {
                 if (random.nextInt(6) == 0) {

@@ -1,10 +1,8 @@
-import java.util.Arrays;
-
 /** Each promise by itself: ordinary inputs, the edges that the document names, and wrong inputs. */
 public final class PromisesTest {
-    private static final int MIN = Integer.MIN_VALUE;
-    private static final int MAX = Integer.MAX_VALUE;
-    private static final int[] NO_MAPS = {-1, 3, MIN, MAX};
+    private static final int MIN = Scene.MIN;
+    private static final int MAX = Scene.MAX;
+    private static final int[] NO_MAPS = Scene.NOT_0_TO_2;
 
     public static void main(String[] args) {
         promise1NewObject();
@@ -31,42 +29,6 @@ public final class PromisesTest {
         Check.end();
     }
 
-    /** Map 0 with these keys, each with ten times itself as its value. */
-    private static TreeFamily withKeys(int kind, int order, int... keys) {
-        TreeFamily x = new TreeFamily();
-        x.make(0, kind, order);
-        fill(x, 0, keys);
-        return x;
-    }
-
-    private static void fill(TreeFamily x, int m, int... keys) {
-        for (int key : keys) {
-            x.put(m, key, 10 * key);
-        }
-    }
-
-    private static void fillUp(TreeFamily x, int m, int first, int count) {
-        for (int i = 0; i < count; i++) {
-            x.put(m, first + i, i);
-        }
-    }
-
-    private static String keys(TreeFamily x, int m) {
-        int[] keys = new int[x.size(m)];
-        for (int i = 0; i < keys.length; i++) {
-            keys[i] = x.select(m, i);
-        }
-        return Arrays.toString(keys);
-    }
-
-    private static String values(TreeFamily x, int m) {
-        int[] values = new int[x.size(m)];
-        for (int i = 0; i < values.length; i++) {
-            values[i] = x.get(m, x.select(m, i));
-        }
-        return Arrays.toString(values);
-    }
-
     private static void promise1NewObject() {
         TreeFamily x = new TreeFamily();
         for (int m = 0; m < 3; m++) {
@@ -77,15 +39,15 @@ public final class PromisesTest {
             Check.badState("new: no iterator", () -> x.next(map));
             Check.badState("new: nothing to drop", () -> x.drop(map));
             Check.yes("new: audit", x.audit(m));
-            fill(x, m, 3, 2, 1);
-            Check.same("new: order 0", "[1, 2, 3]", keys(x, m));
+            Scene.fill(x, m, 3, 2, 1);
+            Check.same("new: order 0", "[1, 2, 3]", Scene.keys(x, m));
             Check.same("new: no range", 3, x.within(m, 0));
         }
         Check.same("new: same order everywhere", 0, x.join(0, 1, 0));
     }
 
     private static void promise2Make() {
-        TreeFamily x = withKeys(0, 0, 1, 2, 3);
+        TreeFamily x = Scene.withKeys(0, 0, 1, 2, 3);
         x.range(0, 1, 2, 0);
         x.iterate(0, false);
         x.put(1, 1, 1);
@@ -94,17 +56,17 @@ public final class PromisesTest {
                 x.make(0, kind, order);
                 Check.same("make: empty", 0, x.size(0));
                 Check.badState("make: no iterator", () -> x.next(0));
-                fill(x, 0, 1, 2, 3, 8);
+                Scene.fill(x, 0, 1, 2, 3, 8);
                 Check.same("make: no range", x.size(0), x.within(0, 0));
                 String due = order == 0 ? "[1, 2, 3, 8]" : order == 1 ? "[8, 3, 2, 1]" : "[1, 8]";
-                Check.same("make: order " + order, due, keys(x, 0));
+                Check.same("make: order " + order, due, Scene.keys(x, 0));
                 x.range(0, order % 2 == 0 ? 1 : 2, 8, 3);
                 x.iterate(0, true);
             }
         }
-        Check.same("make: another map stays", "[1]", keys(x, 1));
+        Check.same("make: another map stays", "[1]", Scene.keys(x, 1));
         Check.same("make: another map's changes", 1, x.changes(1));
-        String before = keys(x, 0);
+        String before = Scene.keys(x, 0);
         int changes = x.changes(0);
         for (int bad : new int[] {-1, 4, MIN, MAX}) {
             Check.illegal("make: kind", () -> x.make(0, bad, 0));
@@ -113,7 +75,7 @@ public final class PromisesTest {
             Check.illegal("make: order", () -> x.make(0, 0, bad));
             Check.illegal("make: map", () -> x.make(bad, 0, 0));
         }
-        Check.same("make: what throws changes nothing", before, keys(x, 0));
+        Check.same("make: what throws changes nothing", before, Scene.keys(x, 0));
         Check.same("make: nor changes", changes, x.changes(0));
         Check.same("make: nor the range", 1, x.within(0, 0));
         Check.same("make: nor the iterator", 8, x.next(0));
@@ -125,19 +87,19 @@ public final class PromisesTest {
             x.make(2, kind, 2);
             Check.yes("put: new", x.put(2, 5, 1));
             Check.no("put: alike", x.put(2, 6, 2));
-            Check.same("put: the key stays", "[5]", keys(x, 2));
+            Check.same("put: the key stays", "[5]", Scene.keys(x, 2));
             Check.same("put: the value does not", 2, x.get(2, 5));
             Check.yes("put: below 0", x.put(2, -1, 3));
             Check.yes("put: rounded down, not cut", x.put(2, 0, 4));
             Check.no("put: alike below 0", x.put(2, -4, 5));
             Check.yes("put: not alike below 0", x.put(2, -5, 6));
-            Check.same("put: keys", "[-5, -1, 0, 5]", keys(x, 2));
+            Check.same("put: keys", "[-5, -1, 0, 5]", Scene.keys(x, 2));
             Check.yes("put: least key", x.put(2, MIN, 7));
             Check.yes("put: greatest key", x.put(2, MAX, 8));
-            Check.same("put: ends", "[-2147483648, -5, -1, 0, 5, 2147483647]", keys(x, 2));
+            Check.same("put: ends", "[-2147483648, -5, -1, 0, 5, 2147483647]", Scene.keys(x, 2));
 
             x.make(2, kind, kind % 2);
-            fillUp(x, 2, 100, 60);
+            Scene.fillUp(x, 2, 100, 60);
             int changes = x.changes(2);
             Check.outOfBounds("put: the 61st", () -> x.put(2, 160, 1));
             Check.outOfBounds("put: the 61st ahead", () -> x.put(2, 99, 1));
@@ -155,12 +117,12 @@ public final class PromisesTest {
 
     private static void promise4Remove() {
         for (int kind = 0; kind < 4; kind++) {
-            TreeFamily x = withKeys(kind, 2, 4, 9, -3, 13, 22);
+            TreeFamily x = Scene.withKeys(kind, 2, 4, 9, -3, 13, 22);
             Check.no("remove: none", x.remove(0, 16));
             Check.same("remove: none, changes", 6, x.changes(0));
             Check.yes("remove: alike", x.remove(0, 11));
             Check.same("remove: changes", 7, x.changes(0));
-            Check.same("remove: keys", "[-3, 4, 13, 22]", keys(x, 0));
+            Check.same("remove: keys", "[-3, 4, 13, 22]", Scene.keys(x, 0));
             Check.no("remove: gone", x.remove(0, 9));
             Check.yes("remove: alike below 0", x.remove(0, -4));
             for (int key : new int[] {4, 13, 22}) {
@@ -177,7 +139,7 @@ public final class PromisesTest {
     /** Of 1 .. 15 one after the other is removed: the others keep their values, wherever they stand. */
     private static void removeEachPlace(int kind) {
         for (int gone = 1; gone <= 15; gone++) {
-            TreeFamily x = withKeys(kind, 0, 8, 4, 12, 2, 6, 10, 14, 1, 3, 5, 7, 9, 11, 13, 15);
+            TreeFamily x = Scene.withKeys(kind, 0, 8, 4, 12, 2, 6, 10, 14, 1, 3, 5, 7, 9, 11, 13, 15);
             Check.yes("remove: one of 15", x.remove(0, gone));
             Check.outOfBounds("remove: it is gone", keyGetter(x, gone));
             for (int key = 1; key <= 15; key++) {
@@ -194,7 +156,7 @@ public final class PromisesTest {
 
     private static void promise5Get() {
         for (int kind = 0; kind < 4; kind++) {
-            TreeFamily x = withKeys(kind, 2, 4, 9, -3);
+            TreeFamily x = Scene.withKeys(kind, 2, 4, 9, -3);
             Check.same("get: key", 90, x.get(0, 9));
             Check.same("get: alike", 90, x.get(0, 8));
             Check.same("get: alike below 0", -30, x.get(0, -1));
@@ -223,21 +185,21 @@ public final class PromisesTest {
 
     private static void promise6Near() {
         for (int kind = 0; kind < 4; kind++) {
-            TreeFamily x = withKeys(kind, 0, 10, 20, 30);
+            TreeFamily x = Scene.withKeys(kind, 0, 10, 20, 30);
             Check.same("near: between", "10 20 10 20 ", nearAll(x, 15));
             Check.same("near: at one", "20 20 10 30 ", nearAll(x, 20));
             Check.same("near: at the first", "10 10 none 20 ", nearAll(x, 10));
             Check.same("near: at the last", "30 30 20 none ", nearAll(x, 30));
             Check.same("near: ahead of all", "none 10 none 10 ", nearAll(x, MIN));
             Check.same("near: behind all", "30 none 30 none ", nearAll(x, MAX));
-            x = withKeys(kind, 1, 10, 20, 30);
+            x = Scene.withKeys(kind, 1, 10, 20, 30);
             Check.same("near: order 1, between", "20 10 20 10 ", nearAll(x, 15));
             Check.same("near: order 1, at one", "20 20 30 10 ", nearAll(x, 20));
             Check.same("near: order 1, ahead of all", "none 30 none 30 ", nearAll(x, MAX));
-            x = withKeys(kind, 2, -7, 2, 9);
+            x = Scene.withKeys(kind, 2, -7, 2, 9);
             Check.same("near: order 2, alike", "2 2 -7 9 ", nearAll(x, 0));
             Check.same("near: order 2, between", "-7 2 -7 2 ", nearAll(x, -1));
-            TreeFamily empty = withKeys(kind, 0);
+            TreeFamily empty = Scene.withKeys(kind, 0);
             Check.same("near: empty", "none none none none ", nearAll(empty, 0));
             for (int which : new int[] {-1, 4, MIN, MAX}) {
                 Check.illegal("near: which", () -> empty.near(0, which, 1));
@@ -250,7 +212,7 @@ public final class PromisesTest {
 
     private static void promise7Size() {
         TreeFamily x = new TreeFamily();
-        fillUp(x, 1, 0, 60);
+        Scene.fillUp(x, 1, 0, 60);
         Check.same("size: full", 60, x.size(1));
         Check.same("size: another map", 0, x.size(0));
         x.put(1, 5, 5);
@@ -266,15 +228,15 @@ public final class PromisesTest {
 
     private static void promise8Rank() {
         for (int kind = 0; kind < 4; kind++) {
-            TreeFamily x = withKeys(kind, 0, 10, 20, 30);
+            TreeFamily x = Scene.withKeys(kind, 0, 10, 20, 30);
             Check.same("rank: least", 0, x.rank(0, MIN));
             Check.same("rank: at", 1, x.rank(0, 20));
             Check.same("rank: behind", 2, x.rank(0, 21));
             Check.same("rank: greatest", 3, x.rank(0, MAX));
-            x = withKeys(kind, 1, 10, 20, 30);
+            x = Scene.withKeys(kind, 1, 10, 20, 30);
             Check.same("rank: order 1", 2, x.rank(0, 10));
             Check.same("rank: order 1, greatest", 0, x.rank(0, MAX));
-            x = withKeys(kind, 2, -5, -1, 1, 5);
+            x = Scene.withKeys(kind, 2, -5, -1, 1, 5);
             Check.same("rank: order 2", 2, x.rank(0, 3));
             Check.same("rank: order 2, below 0", 1, x.rank(0, -3));
             Check.same("rank: empty", 0, x.rank(1, 3));
@@ -287,7 +249,7 @@ public final class PromisesTest {
 
     private static void promise9Select() {
         for (int kind = 0; kind < 4; kind++) {
-            TreeFamily x = withKeys(kind, 1, 10, 30, 20);
+            TreeFamily x = Scene.withKeys(kind, 1, 10, 30, 20);
             Check.same("select: first", 30, x.select(0, 0));
             Check.same("select: last", 10, x.select(0, 2));
             for (int i : new int[] {-1, 3, MIN, MAX}) {
@@ -302,7 +264,7 @@ public final class PromisesTest {
 
     private static void promise10Sum() {
         for (int kind = 0; kind < 4; kind++) {
-            TreeFamily x = withKeys(kind, 0, 1, 2, 3, 4);
+            TreeFamily x = Scene.withKeys(kind, 0, 1, 2, 3, 4);
             Check.same("sum: none", 0, x.sum(0, 1));
             Check.same("sum: without the key", 30, x.sum(0, 3));
             Check.same("sum: all", 100, x.sum(0, MAX));
@@ -311,7 +273,7 @@ public final class PromisesTest {
             x.remove(0, 1);
             Check.same("sum: removed", -500, x.sum(0, 3));
             x.make(0, kind, 1);
-            fill(x, 0, 1, 2, 3, 4);
+            Scene.fill(x, 0, 1, 2, 3, 4);
             Check.same("sum: order 1", 70, x.sum(0, 2));
             x.make(0, kind, 2);
             x.put(0, -1, 7);
@@ -333,7 +295,7 @@ public final class PromisesTest {
     }
 
     private static void promise11Range() {
-        TreeFamily x = withKeys(0, 0, 1, 2, 3, 4, 5);
+        TreeFamily x = Scene.withKeys(0, 0, 1, 2, 3, 4, 5);
         x.range(0, 3, 2, 4);
         Check.same("range: both", 2, x.within(0, 0));
         x.range(0, 1, 2, -100);
@@ -359,7 +321,7 @@ public final class PromisesTest {
             Check.illegal("range: map", () -> x.range(m, 0, 1, 2));
         }
         x.make(1, 1, 1);
-        fill(x, 1, 1, 2, 3, 4, 5);
+        Scene.fill(x, 1, 1, 2, 3, 4, 5);
         x.range(1, 3, 4, 2);
         Check.same("range: order 1", 2, x.within(1, 0));
         Check.illegal("range: order 1, second before first", () -> x.range(1, 3, 2, 4));
@@ -368,13 +330,13 @@ public final class PromisesTest {
         Check.illegal("range: order 2, second before first", () -> x.range(2, 3, 4, 3));
         Check.illegal("range: order 2, below 0", () -> x.range(2, 3, 0, -1));
         x.make(0, 0, 0);
-        fill(x, 0, 1, 2, 3, 4, 5);
+        Scene.fill(x, 0, 1, 2, 3, 4, 5);
         Check.same("range: none after make", 5, x.within(0, 0));
     }
 
     private static void promise12Within() {
         for (int kind = 0; kind < 4; kind++) {
-            TreeFamily x = withKeys(kind, 1, 10, 20, 30, 40);
+            TreeFamily x = Scene.withKeys(kind, 1, 10, 20, 30, 40);
             Check.same("within: all", 4, x.within(0, 0));
             Check.same("within: first of all", 40, x.within(0, 1));
             Check.same("within: last of all", 10, x.within(0, 2));
@@ -398,7 +360,7 @@ public final class PromisesTest {
                 Check.illegal("within: map", () -> x.within(m, 1));
             }
             x.make(2, kind, 2);
-            fill(x, 2, 3, 7, 11);
+            Scene.fill(x, 2, 3, 7, 11);
             x.range(2, 3, 6, 10);
             Check.same("within: order 2", 1, x.within(2, 0));
             Check.same("within: order 2, first", 7, x.within(2, 1));
@@ -406,7 +368,7 @@ public final class PromisesTest {
     }
 
     private static void promise13PutWithin() {
-        TreeFamily x = withKeys(0, 0, 10, 20);
+        TreeFamily x = Scene.withKeys(0, 0, 10, 20);
         Check.yes("putWithin: no range", x.putWithin(0, MIN, 1));
         x.range(0, 3, 10, 20);
         Check.yes("putWithin: new", x.putWithin(0, 15, 1));
@@ -414,7 +376,7 @@ public final class PromisesTest {
         Check.same("putWithin: value", 2, x.get(0, 10));
         Check.illegal("putWithin: second", () -> x.putWithin(0, 20, 3));
         Check.illegal("putWithin: ahead", () -> x.putWithin(0, 9, 3));
-        Check.same("putWithin: what throws changes nothing", "[-2147483648, 10, 15, 20]", keys(x, 0));
+        Check.same("putWithin: what throws changes nothing", "[-2147483648, 10, 15, 20]", Scene.keys(x, 0));
         Check.same("putWithin: nor the value", 200, x.get(0, 20));
         Check.same("putWithin: changes", 5, x.changes(0));
         x.range(0, 1, 10, 0);
@@ -427,7 +389,7 @@ public final class PromisesTest {
         Check.yes("putWithin: order 2, alike to first", x.putWithin(1, 4, 1));
         Check.illegal("putWithin: order 2, alike to second", () -> x.putWithin(1, 8, 1));
         x.make(2, 0, 0);
-        fillUp(x, 2, 0, 60);
+        Scene.fillUp(x, 2, 0, 60);
         Check.outOfBounds("putWithin: the 61st", () -> x.putWithin(2, 60, 1));
         x.range(2, 2, 0, 60);
         Check.illegal("putWithin: not in range comes first", () -> x.putWithin(2, 60, 1));
@@ -439,7 +401,7 @@ public final class PromisesTest {
 
     private static void promise14Poll() {
         for (int kind = 0; kind < 4; kind++) {
-            TreeFamily x = withKeys(kind, 0, 1, 2, 3, 4, 5, 6);
+            TreeFamily x = Scene.withKeys(kind, 0, 1, 2, 3, 4, 5, 6);
             Check.same("poll: last of all", 6, x.poll(0, true));
             Check.same("poll: first of all", 1, x.poll(0, false));
             x.range(0, 3, 3, 5);
@@ -447,19 +409,19 @@ public final class PromisesTest {
             Check.same("poll: first in range", 3, x.poll(0, false));
             Check.outOfBounds("poll: none in range", () -> x.poll(0, false));
             Check.outOfBounds("poll: no last one either", () -> x.poll(0, true));
-            Check.same("poll: the rest", "[2, 5]", keys(x, 0));
+            Check.same("poll: the rest", "[2, 5]", Scene.keys(x, 0));
             Check.same("poll: changes", 11, x.changes(0));
             for (int m : NO_MAPS) {
                 Check.illegal("poll: map", () -> x.poll(m, true));
             }
-            TreeFamily y = withKeys(kind, 1, 1, 2, 3);
+            TreeFamily y = Scene.withKeys(kind, 1, 1, 2, 3);
             Check.same("poll: order 1", 3, y.poll(0, false));
             Check.same("poll: order 1, last", 1, y.poll(0, true));
         }
     }
 
     private static void promise15Iterate() {
-        TreeFamily x = withKeys(3, 0, 1, 2, 3, 4, 5);
+        TreeFamily x = Scene.withKeys(3, 0, 1, 2, 3, 4, 5);
         x.range(0, 3, 2, 5);
         x.iterate(0, false);
         x.range(0, 0, 0, 0);
@@ -486,7 +448,7 @@ public final class PromisesTest {
     }
 
     private static void promise16Next() {
-        TreeFamily x = withKeys(2, 1, 1, 2, 3);
+        TreeFamily x = Scene.withKeys(2, 1, 1, 2, 3);
         Check.badState("next: no iterator", () -> x.next(0));
         x.iterate(0, false);
         Check.same("next: first", 3, x.next(0));
@@ -521,7 +483,7 @@ public final class PromisesTest {
     }
 
     private static void promise17Drop() {
-        TreeFamily x = withKeys(0, 0, 1, 2, 3, 4, 5, 6);
+        TreeFamily x = Scene.withKeys(0, 0, 1, 2, 3, 4, 5, 6);
         Check.badState("drop: no iterator", () -> x.drop(0));
         x.range(0, 3, 2, 6);
         x.iterate(0, false);
@@ -529,14 +491,14 @@ public final class PromisesTest {
         x.next(0);
         x.next(0);
         x.drop(0);
-        Check.same("drop: removed", "[1, 2, 4, 5, 6]", keys(x, 0));
+        Check.same("drop: removed", "[1, 2, 4, 5, 6]", Scene.keys(x, 0));
         Check.same("drop: changes", 8, x.changes(0));
         Check.badState("drop: dropped", () -> x.drop(0));
         Check.same("drop: goes on", 4, x.next(0));
         Check.same("drop: to the last", 5, x.next(0));
         Check.outOfBounds("drop: not beyond the range", () -> x.next(0));
         x.drop(0);
-        Check.same("drop: the latest, though none is more", "[1, 2, 4, 6]", keys(x, 0));
+        Check.same("drop: the latest, though none is more", "[1, 2, 4, 6]", Scene.keys(x, 0));
         Check.outOfBounds("drop: none more still", () -> x.next(0));
         x.iterate(0, true);
         Check.same("drop: back", 4, x.next(0));
@@ -544,13 +506,13 @@ public final class PromisesTest {
         Check.same("drop: back, goes on", 2, x.next(0));
         x.drop(0);
         Check.outOfBounds("drop: back, none more", () -> x.next(0));
-        Check.same("drop: back, removed", "[1, 6]", keys(x, 0));
+        Check.same("drop: back, removed", "[1, 6]", Scene.keys(x, 0));
         x.range(0, 0, 0, 0);
         x.iterate(0, false);
         x.next(0);
         x.put(0, 8, 8);
         Check.badState("drop: changed", () -> x.drop(0));
-        Check.same("drop: what throws changes nothing", "[1, 6, 8]", keys(x, 0));
+        Check.same("drop: what throws changes nothing", "[1, 6, 8]", Scene.keys(x, 0));
         x.iterate(0, false);
         x.next(0);
         x.make(0, 0, 0);
@@ -588,7 +550,7 @@ public final class PromisesTest {
         for (int op = 0; op < 3; op++) {
             x.make(0, kind, 2);
             x.make(1, 3 - kind, 2);
-            fill(x, 0, 0, 6, 9);
+            Scene.fill(x, 0, 0, 6, 9);
             x.put(1, 4, 5);
             x.put(1, 10, 10);
             x.put(1, 12, 2);
@@ -596,11 +558,11 @@ public final class PromisesTest {
             int changes = x.changes(0);
             int others = x.changes(1);
             Check.same("join: came or went", moved[op], x.join(0, 1, op));
-            Check.same("join: keys are m's", keys[op], keys(x, 0));
-            Check.same("join: values", values[op], values(x, 0));
+            Check.same("join: keys are m's", keys[op], Scene.keys(x, 0));
+            Check.same("join: values", values[op], Scene.values(x, 0));
             Check.same("join: changes", changes + moved[op], x.changes(0));
-            Check.same("join: the other one stays", "[4, 10, 12]", keys(x, 1));
-            Check.same("join: its values too", "[5, 10, 2]", values(x, 1));
+            Check.same("join: the other one stays", "[4, 10, 12]", Scene.keys(x, 1));
+            Check.same("join: its values too", "[5, 10, 2]", Scene.values(x, 1));
             Check.same("join: its changes too", others, x.changes(1));
             Check.same("join: the range stays", op == 0 ? 2 : op == 1 ? 1 : 0, x.within(0, 0));
             Check.yes("join: audit", x.audit(0) && x.audit(1));
@@ -614,42 +576,42 @@ public final class PromisesTest {
     }
 
     private static void joinWithItself(int kind) {
-        TreeFamily x = withKeys(kind, 1, 1, 2, 3, 4, 5);
+        TreeFamily x = Scene.withKeys(kind, 1, 1, 2, 3, 4, 5);
         int changes = x.changes(0);
         Check.same("join: union with itself", 0, x.join(0, 0, 0));
-        Check.same("join: three times the value", "[150, 120, 90, 60, 30]", values(x, 0));
+        Check.same("join: three times the value", "[150, 120, 90, 60, 30]", Scene.values(x, 0));
         Check.same("join: intersection with itself", 0, x.join(0, 0, 1));
-        Check.same("join: three times again", "[450, 360, 270, 180, 90]", values(x, 0));
+        Check.same("join: three times again", "[450, 360, 270, 180, 90]", Scene.values(x, 0));
         Check.same("join: sums too", 1260, x.sum(0, 1));
         Check.same("join: no change", changes, x.changes(0));
         Check.same("join: difference with itself", 5, x.join(0, 0, 2));
-        Check.same("join: empty", "[]", keys(x, 0));
+        Check.same("join: empty", "[]", Scene.keys(x, 0));
         Check.same("join: five changes", changes + 5, x.changes(0));
     }
 
     private static void joinToTheBrim(int kind) {
-        TreeFamily x = withKeys(kind, 0);
-        fillUp(x, 0, 0, 40);
-        fillUp(x, 1, 20, 40);
+        TreeFamily x = Scene.withKeys(kind, 0);
+        Scene.fillUp(x, 0, 0, 40);
+        Scene.fillUp(x, 1, 20, 40);
         Check.same("join: 60 in all", 20, x.join(0, 1, 0));
         Check.same("join: a full map", 0, x.join(0, 1, 0));
         x.put(2, 59, 0);
         x.put(2, 60, 0);
         int changes = x.changes(0);
-        String values = values(x, 0);
+        String values = Scene.values(x, 0);
         Check.outOfBounds("join: the 61st", () -> x.join(0, 2, 0));
-        Check.same("join: what throws changes nothing", values, values(x, 0));
+        Check.same("join: what throws changes nothing", values, Scene.values(x, 0));
         Check.same("join: nor changes", changes, x.changes(0));
         Check.same("join: fewer are fine", 59, x.join(0, 2, 1));
         x.make(2, 0, 1);
-        fillUp(x, 1, 100, 20);
-        fillUp(x, 2, 0, 60);
+        Scene.fillUp(x, 1, 100, 20);
+        Scene.fillUp(x, 2, 0, 60);
         Check.illegal("join: orders come first", () -> x.join(1, 2, 0));
     }
 
     private static void promise19Split() {
         for (int kind = 0; kind < 4; kind++) {
-            TreeFamily x = withKeys(kind, 2, -9, -5, 1, 6, 8, 15);
+            TreeFamily x = Scene.withKeys(kind, 2, -9, -5, 1, 6, 8, 15);
             x.put(1, 77, 7);
             x.range(1, kind % 2 + 1, 100, 0);
             x.iterate(1, false);
@@ -657,9 +619,9 @@ public final class PromisesTest {
             int from = x.changes(0);
             int into = x.changes(1);
             Check.same("split: how many", 3, x.split(0, 7, 1));
-            Check.same("split: what stays", "[-9, -5, 1]", keys(x, 0));
-            Check.same("split: what comes", "[6, 8, 15]", keys(x, 1));
-            Check.same("split: with values", "[60, 80, 150]", values(x, 1));
+            Check.same("split: what stays", "[-9, -5, 1]", Scene.keys(x, 0));
+            Check.same("split: what comes", "[6, 8, 15]", Scene.keys(x, 1));
+            Check.same("split: with values", "[60, 80, 150]", Scene.values(x, 1));
             Check.same("split: m's changes", from + 3, x.changes(0));
             Check.same("split: into's changes", into + 4, x.changes(1));
             Check.same("split: m's range stays", 3, x.within(0, 0));
@@ -680,7 +642,7 @@ public final class PromisesTest {
             x.range(0, 0, 0, 0);
             Check.same("split: all", 3, x.split(0, MIN, 2));
             Check.same("split: m is empty", 0, x.size(0));
-            Check.same("split: all are there", "[-5, 1, 9]", keys(x, 2));
+            Check.same("split: all are there", "[-5, 1, 9]", Scene.keys(x, 2));
             Check.badState("split: m's iterator fails", () -> x.next(0));
             int changes = x.changes(2);
             Check.illegal("split: into itself", () -> x.split(2, 0, 2));
@@ -689,18 +651,18 @@ public final class PromisesTest {
                 Check.illegal("split: into", () -> x.split(2, 0, m));
                 Check.illegal("split: both", () -> x.split(m, 0, m));
             }
-            Check.same("split: what throws changes nothing", "[-5, 1, 9]", keys(x, 2));
+            Check.same("split: what throws changes nothing", "[-5, 1, 9]", Scene.keys(x, 2));
             Check.same("split: nor changes", changes, x.changes(2));
             x.make(0, kind, 1);
-            fill(x, 0, 1, 2, 3, 4);
+            Scene.fill(x, 0, 1, 2, 3, 4);
             Check.same("split: order 1", 2, x.split(0, 2, 1));
-            Check.same("split: order 1, keys", "[2, 1]", keys(x, 1));
+            Check.same("split: order 1, keys", "[2, 1]", Scene.keys(x, 1));
         }
     }
 
     private static void promise20Changes() {
         TreeFamily x = new TreeFamily();
-        fillUp(x, 0, 0, 60);
+        Scene.fillUp(x, 0, 0, 60);
         Check.same("changes: puts", 60, x.changes(0));
         x.put(0, 1, 1);
         Check.same("changes: a new value", 60, x.changes(0));

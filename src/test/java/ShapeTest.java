@@ -8,6 +8,7 @@ import java.util.Random;
  */
 public final class ShapeTest {
     private final TreeFamily family = new TreeFamily();
+    private final int map;
     private final Object tree;
     private final int[] keys;
     private final int[] left;
@@ -15,8 +16,12 @@ public final class ShapeTest {
     private final int[] counts;
 
     private ShapeTest() throws ReflectiveOperationException {
-        Object map = Array.get(field(family, "maps"), 0);
-        tree = field(map, "tree");
+        this(0);
+    }
+
+    private ShapeTest(int m) throws ReflectiveOperationException {
+        map = m;
+        tree = field(Array.get(field(family, "maps"), m), "tree");
         keys = (int[]) field(tree, "keys");
         left = (int[]) field(tree, "left");
         right = (int[]) field(tree, "right");
@@ -29,8 +34,18 @@ public final class ShapeTest {
             for (int seed = 0; seed < 40; seed++) {
                 new ShapeTest().mixed(kind, seed);
             }
-            for (int spoil = 0; spoil < 4; spoil++) {
+            for (int spoil = 0; spoil < 5; spoil++) {
                 new ShapeTest().spoilt(kind, spoil);
+            }
+        }
+        for (int m = 0; m < 3; m++) {
+            new ShapeTest(m).newObjectIsOfKind0();
+            for (int kind = 0; kind < 4; kind++) {
+                for (int another = 0; another < 4; another++) {
+                    new ShapeTest(m).refusedMakeLeavesTheKind(kind, another);
+                    new ShapeTest(m).joinLeavesTheKind(kind, another);
+                    new ShapeTest(m).splitGivesTheKind(kind, another);
+                }
             }
         }
         new ShapeTest().chainIsSeen();
@@ -55,41 +70,88 @@ public final class ShapeTest {
     }
 
     private void straight(int kind) throws ReflectiveOperationException {
-        family.make(0, kind, 0);
+        family.make(map, kind, 0);
         for (int i = 0; i < 60; i++) {
-            family.put(0, i, i);
+            family.put(map, i, i);
             look("up", kind);
         }
         for (int i = 0; i < 60; i++) {
-            family.remove(0, i);
+            family.remove(map, i);
             look("down", kind);
         }
     }
 
     private void mixed(int kind, int seed) throws ReflectiveOperationException {
         Random random = new Random(seed);
-        family.make(0, kind, seed % 3);
+        family.make(map, kind, seed % 3);
+        stir("mixed " + seed, kind, random);
+    }
+
+    private void stir(String what, int kind, Random random) throws ReflectiveOperationException {
         for (int call = 0; call < 1000; call++) {
             int key = random.nextInt(200);
-            if (random.nextInt(60) >= family.size(0)) {
-                family.put(0, key, call);
+            if (random.nextInt(60) >= family.size(map)) {
+                family.put(map, key, call);
             } else {
-                family.remove(0, family.select(0, random.nextInt(family.size(0))));
+                family.remove(map, family.select(map, random.nextInt(family.size(map))));
             }
-            look("mixed " + seed, kind);
+            look(what, kind);
         }
+    }
+
+    private void newObjectIsOfKind0() throws ReflectiveOperationException {
+        stir("new object", 0, new Random(map));
+    }
+
+    private void refusedMakeLeavesTheKind(int kind, int another) throws ReflectiveOperationException {
+        family.make(map, kind, 0);
+        Check.illegal("no such order", () -> family.make(map, another, 3));
+        Check.illegal("no such kind", () -> family.make(map, 4 + another, 0));
+        stir("refused make", kind, new Random(another));
+    }
+
+    private void joinLeavesTheKind(int kind, int another) throws ReflectiveOperationException {
+        int other = (map + 1) % 3;
+        family.make(map, kind, 0);
+        family.make(other, another, 0);
+        for (int op = 0; op < 3; op++) {
+            for (int i = 0; i < 30; i++) {
+                family.put(map, 2 * i, i);
+                family.put(other, 2 * i + (i < 15 ? 0 : 1), i);
+            }
+            family.join(map, other, op);
+            look("join, op " + op, kind);
+            stir("join, op " + op, kind, new Random(op));
+            family.join(map, map, 2);
+            look("none left", kind);
+        }
+    }
+
+    private void splitGivesTheKind(int kind, int another) throws ReflectiveOperationException {
+        int from = (map + 1) % 3;
+        family.make(from, kind, 0);
+        family.make(map, another, 2);
+        for (int i = 0; i < 60; i++) {
+            family.put(from, i, i);
+        }
+        family.split(from, 10, map);
+        look("split", kind);
+        stir("split", kind, new Random(another));
+        family.make(map, another, 2);
+        family.split(from, 10, map);
+        stir("split of none", kind, new Random(another));
     }
 
     private void look(String what, int kind) throws ReflectiveOperationException {
         int root = root();
-        Check.same(what + ": count", family.size(0), count(root));
+        Check.same(what + ": count", family.size(map), count(root));
         Check.yes(what + ": kind " + kind + " at every node", suits(root, kind));
         double most = kind == 0 ? 1.45 : kind == 1 ? 2.41 : 1.71;
         if (kind != 2) {
-            double bound = most * Math.log(family.size(0) + 2) / Math.log(2) + 1;
+            double bound = most * Math.log(family.size(map) + 2) / Math.log(2) + 1;
             Check.yes(what + ": height " + height(root) + " of kind " + kind, height(root) <= bound);
         }
-        Check.yes(what + ": audit", family.audit(0));
+        Check.yes(what + ": audit", family.audit(map));
     }
 
     private int count(int node) {
@@ -128,53 +190,54 @@ public final class ShapeTest {
     }
 
     private void spoilt(int kind, int spoil) throws ReflectiveOperationException {
-        family.make(0, kind, 0);
+        family.make(map, kind, 0);
         for (int i = 0; i < 30; i++) {
-            family.put(0, i, i);
+            family.put(map, i, i);
         }
-        Check.yes("spoilt: not yet", family.audit(0));
+        Check.yes("spoilt: not yet", family.audit(map));
         int root = root();
         switch (spoil) {
             case 0 -> counts[root]--;
             case 1 -> keys[root] = 1000;
             case 2 -> ((long[]) field(tree, "totals"))[root]++;
-            default -> ((int[]) field(tree, "heights"))[root]++;
+            case 3 -> ((int[]) field(tree, "heights"))[root]++;
+            default -> fieldOf(tree, "spares").setInt(tree, 29);
         }
-        Check.no("spoilt: audit of kind " + kind + ", way " + spoil, family.audit(0));
+        Check.no("spoilt: audit of kind " + kind + ", way " + spoil, family.audit(map));
     }
 
     /** Thirty nodes, each the right one of the node before: sound but for what the kinds want. */
     private void chainIsSeen() throws ReflectiveOperationException {
         for (int kind = 0; kind < 4; kind++) {
-            family.make(0, kind, 0);
+            family.make(map, kind, 0);
             for (int i = 0; i < 30; i++) {
-                family.put(0, i, i);
+                family.put(map, i, i);
             }
             hangInAChain();
-            Check.no("a chain is not of kind " + kind, family.audit(0));
+            Check.no("a chain is not of kind " + kind, family.audit(map));
         }
     }
 
     /** Priorities do not bound the height: keys can be chosen so that 60 nodes are a chain, and all must hold there. */
     private void highestOfPriorities(int way) throws ReflectiveOperationException {
         int[] chain = keysOfRisingPriority();
-        family.make(0, 2, way % 2);
+        family.make(map, 2, way % 2);
         for (int i = 0; i < 60; i++) {
-            family.put(0, chain[way < 2 ? i : 59 - i], i);
+            family.put(map, chain[way < 2 ? i : 59 - i], i);
         }
         Check.same("chain: height", 60, height(root()));
         look("chain", 2);
-        Check.same("chain: rank", way % 2 == 0 ? 60 : 0, family.rank(0, Integer.MAX_VALUE));
+        Check.same("chain: rank", way % 2 == 0 ? 60 : 0, family.rank(map, Integer.MAX_VALUE));
         for (int i = 0; i < 60; i++) {
-            Check.same("chain: get", way < 2 ? i : 59 - i, family.get(0, chain[i]));
-            Check.same("chain: select", chain[way % 2 == 0 ? i : 59 - i], family.select(0, i));
-            Check.no("chain: none", family.remove(0, chain[i] + 1));
+            Check.same("chain: get", way < 2 ? i : 59 - i, family.get(map, chain[i]));
+            Check.same("chain: select", chain[way % 2 == 0 ? i : 59 - i], family.select(map, i));
+            Check.no("chain: none", family.remove(map, chain[i] + 1));
         }
-        family.remove(0, chain[30]);
-        family.put(0, chain[59] + 1, 7);
+        family.remove(map, chain[30]);
+        family.put(map, chain[59] + 1, 7);
         look("chain with another end", 2);
         for (int i = 0; i < 60; i++) {
-            family.poll(0, i % 2 == 0);
+            family.poll(map, i % 2 == 0);
             look("chain, polled", 2);
         }
     }
