@@ -11,6 +11,8 @@ import java.util.HashSet;
 import java.util.List;
 import java.util.Set;
 import java.util.TreeSet;
+import java.util.regex.Matcher;
+import java.util.regex.Pattern;
 
 /** The public face is the document's and no more, and the program keeps to what of LANGUAGE.md can be seen here. */
 public final class FaceTest {
@@ -129,9 +131,30 @@ public final class FaceTest {
         for (String word : RULED_OUT) {
             Check.no("the program has " + word, code.contains(word));
         }
+        throwsAreWritten(code);
+        methodsAreShort(code);
         for (int i = 0; i < source.length(); i++) {
             if (source.charAt(i) > 126) {
                 Check.fail("a character beyond ASCII at " + i);
+            }
+        }
+    }
+
+    /** Rule 6: a throw makes one of the document's exceptions there and then, with a text or without one. */
+    private static void throwsAreWritten(String code) {
+        String form = "throw new Illegal(State|Argument)Exception|throw new IndexOutOfBoundsException";
+        String rest = code.replaceAll("(" + form + ")\\((\"[^\"]*\")?\\);", "");
+        Check.no("a throw of another form", rest.matches("(?s).*\\bthrow\\b.*"));
+    }
+
+    /** Rule 11, by the way the file is indented: a method begins with a brace and ends at the same depth. */
+    private static void methodsAreShort(String code) {
+        for (String indent : new String[] {"    ", "        "}) {
+            Pattern method = Pattern.compile("(?m)^" + indent + "(\\w.*\\)[^\n;]*|\\w.*\\)\n.*throws.*) \\{\n");
+            Matcher begin = method.matcher(code);
+            while (begin.find()) {
+                String body = code.substring(begin.end(), code.indexOf("\n" + indent + "}", begin.end()));
+                Check.yes("sixty lines at most: " + begin.group().trim(), body.lines().count() <= 60);
             }
         }
     }
